@@ -117,7 +117,7 @@ public final class SeasonBound {
             case 2: return child.term;
             case 3: return child.skill;
             case 4: return child.age;
-            case 5: return child.isFree() ? NONE : world.seasons[child.season].teaches(child.kind);
+            case 5: return child.isFree() ? NONE : learns(child.kind, world.seasons[child.season].gift);
             default: return BAD;
         }
     }
@@ -570,8 +570,7 @@ public final class SeasonBound {
         // The skill never falls as the gift grows: equal skills come one behind another.
         for (int gift = 0; gift <= TOP_GIFT; gift++) {
             if ((fitting & 1 << gift) != 0) {
-                int learns = learns(child.kind, gift);
-                int skill = raised(child.skill, lessons * learns, world.seasons[s].most);
+                int skill = raised(child.skill, lessons * learns(child.kind, gift), world.seasons[s].most);
                 alike = skill == latest ? alike + 1 : 1;
                 latest = skill;
                 most = Math.max(most, alike);
@@ -763,10 +762,6 @@ public final class SeasonBound {
             gift = other.gift;
             most = other.most;
         }
-
-        int teaches(int kind) {
-            return learns(kind, gift);
-        }
     }
 
     private static final class Child {
@@ -808,7 +803,7 @@ public final class SeasonBound {
         void liveWeekOf(Season current) {
             age = Math.min(TOP_AGE, age + 1);
             if (term > 0) {
-                skill = raised(skill, current.teaches(kind), current.most);
+                skill = raised(skill, learns(kind, current.gift), current.most);
                 term--;
             }
         }
@@ -958,7 +953,7 @@ public final class SeasonBound {
         int skillBehindLessons(int c, int lessons) {
             Child child = children[c];
             Season season = seasons[child.season];
-            return raised(child.skill, lessons * season.teaches(child.kind), season.most);
+            return raised(child.skill, lessons * learns(child.kind, season.gift), season.most);
         }
 
         int living() {
@@ -1179,7 +1174,7 @@ public final class SeasonBound {
         private boolean readLine() {
             for (int line = 0; line < LINES; line++) {
                 if (tape.isNamed(nameOf(line))) {
-                    return line < SEASONS ? readSeason(line) : readChild(line - SEASONS);
+                    return (line < SEASONS ? readSeason(line) : readChild(line - SEASONS)) && readStop();
                 }
             }
             return failAtToken();
@@ -1216,7 +1211,7 @@ public final class SeasonBound {
                 return false;
             }
             season.most = tape.value;
-            return readStop();
+            return true;
         }
 
         private boolean readChild(int kind) {
@@ -1237,7 +1232,7 @@ public final class SeasonBound {
             if (season != FREE_IN_TEXT) {
                 into.apprentice(into.size - 1, season, tape.value);
             }
-            return readStop();
+            return true;
         }
 
         private boolean readNumber(int least, int most) {

@@ -154,6 +154,12 @@ public final class PromiseTest {
         x.keep(0);
         x.keep(1);
         x.sheet(0, 0, 4);
+        // What was tried out before leaves nothing behind.
+        x.runs(9, 0);
+        x.kinds(0);
+        Check.feed(x, "spring 9 9 9;winter 8 8 8;orphan 9 1;orphan 9");
+        due("a text that is not whole", x.text(), -10 - 45);
+        x.runs(9, 0);
         Check.feed(x, "  quick2 07;slow 9 1 ;orphan 0 99;winter 4 9 0;spring 5 0 50;  ");
         due("five lines", x.text(), 5);
         due("tape is empty", x.count(2), 0);
@@ -194,6 +200,8 @@ public final class PromiseTest {
         faulty("plains 9 1;", 0, 2);
         faulty("plai 9 1;", 0, 2);
         faulty("plain9 1;x", 9, 2);
+        faulty("zlain 9 1;", 0, 2);
+        faulty("qlain 9 1;", 0, 2);
         faulty(";", 0, 2);
         faulty("7", 0, 2);
         faulty("plain ; 1;", 6, 2);
@@ -588,6 +596,7 @@ public final class PromiseTest {
         due("how much", x.gift(7, 1), 6 + 2 + 1);
         due("autumn's: a slow one learns more too", x.gift(9, 0), 2);
         due("how much", x.gift(9, 1), 3 + 9 + 6);
+        due("spring's, where it is all", Check.told("plain 0 9;").gift(3, 0), 0);
         due("none in spring", x.gift(3, 0), NONE);
         due("none in spring, how much", x.gift(3, 1), NONE);
         x.set(1, 1, 9);
@@ -605,6 +614,7 @@ public final class PromiseTest {
         promise = 23;
         SeasonBound x = Check.told("quick 1 1;plain 9 1;summer 3 2 11;");
         due("one", x.term(0, 4, 4), 1);
+        due("one, though there were weeks for more", x.term(0, 6, 4), 1);
         due("two, though its term is one", x.term(0, 5, 5), 2);
         due("three, up to most", x.term(0, 6, 11), 3);
         due("above most", x.term(0, 60, 12), NONE);
@@ -769,6 +779,8 @@ public final class PromiseTest {
         // Slow: 0, 1 1, 2 2, 3 3, 4 4, 5 behind one week; plain: 0, 1, 2, 3, 4 and five at most.
         due("one week, the slow one", x.ask(0, 0), 11);
         due("two are left at the worst", x.ask(0, 1), 2);
+        x.set(0, 2, 8);
+        due("8 and 9 are alike", x.ask(0, 1), 2);
         x.set(0, 2, 99);
         due("the plain one tells all", x.ask(0, 0), 12);
         due("one is left", x.ask(0, 1), 1);
@@ -780,6 +792,15 @@ public final class PromiseTest {
         x.see(1, 2, 5);
         due("none fits", x.ask(0, 0), NONE);
         due("nobody there", new SeasonBound().ask(0, 0), NONE);
+        SeasonBound twins = Check.told("plain 0 9;plain 0 9;slow 0 9;spring 3 3 99;");
+        due("the first of two, in the first of weeks", twins.ask(0, 0), 10);
+        twins.see(2, 2, 4);
+        due("of two that are left", twins.gifts(0), 0b11000);
+        due("the same", twins.ask(0, 0), 10);
+        due("one is left", twins.ask(0, 1), 1);
+        SeasonBound slow = Check.told("slow 0 9;slow 1 9;spring 3 3 99;");
+        slow.see(2, 0, 4);
+        due("a slow one does not tell more", slow.ask(0, 0), NONE);
         for (int s : new int[] {-1, 4, MIN, MAX}) {
             due("season " + s, x.ask(s, 0), BAD);
             due("what " + s, x.ask(0, s), BAD);
@@ -794,12 +815,19 @@ public final class PromiseTest {
         due("spring, for one", x.drift(0, 1, 0), 1);
         due("winter's week is far", x.drift(0, 2, 0), 1);
         due("ages", x.drift(0, 2, 1), 1);
+        x.set(3, 1, 2);
+        due("three weeks of winter", x.drift(0, 12, 0), 1 + 6);
+        due("ages", x.drift(0, 12, 1), 4);
+        due("five of them in all", x.drift(0, 24, 0), 1 + 10);
         due("nothing has changed", x.rule(1), 0);
         due("nor of the child", x.child(0, 1), NONE);
         due("least", x.drift(0, 0, 0), BAD);
         due("most", x.drift(0, 61, 0), BAD);
         due("what below", x.drift(0, 1, -1), BAD);
         due("what above", x.drift(0, 1, 2), BAD);
+        SeasonBound three = Check.told("plain 9 1;plain 9 1;plain 9 1;spring 1 1 99;summer 2 2 99;autumn 1 3 99;winter 2 4 99;");
+        due("sixty weeks of three", three.drift(7, 60, 0), 105);
+        due("their ages", three.drift(7, 60, 1), 45);
         SeasonBound empty = new SeasonBound();
         due("nobody", empty.drift(7, 9, 0), STATE);
         due("bad ahead of nobody", empty.drift(7, 0, 0), BAD);
@@ -869,7 +897,6 @@ public final class PromiseTest {
         due("empty", x.sheet(0, 0, 0), 1);
         due("cells", x.count(3), 0);
         due("most", x.sheet(0, 2, 40), 1);
-        x.lay(0, 0, 1);
         x.lay(0, 2, 1);
         due("refused", x.sheet(0, 2, -1), -14);
         due("stays", x.count(3), 40);

@@ -121,6 +121,11 @@ public final class EdgeBestTest {
         check.due("two weeks alone are learnt, as its term is", x.swap(3, 1), 4);
         x.free(2);
         check.due("only one is bound", x.swap(3, 0), NONE);
+        check.due("the lesser alone is bound", Check.told("quick 1 9;plain 9 1;").swap(3, 0), NONE);
+        check.due("the greater alone is bound", Check.told("plain 9 1;quick 1 9;").swap(3, 0), NONE);
+        SeasonBound freed = Check.told("plain 0 9;quick 1 9;");
+        freed.free(0);
+        check.due("one that was spring's is free", freed.swap(3, 0), NONE);
     }
 
     /** Promise 21: "of several the least (what 0), how much (1)". */
@@ -333,6 +338,9 @@ public final class EdgeBestTest {
         fraction("seven lessons", x.mean(1, 7, 0), x.mean(1, 7, 1), 63, 10);
         fraction("behind none", x.mean(5, 0, 0), x.mean(5, 0, 1), 0, 1);
         fraction("nobody", new SeasonBound().mean(5, 8, 0), new SeasonBound().mean(5, 8, 1), 0, 1);
+        SeasonBound once = Check.told("plain 0 1;plain 1 9;");
+        fraction("one lesson of eight weeks, and three", once.mean(5, 8, 0), once.mean(5, 8, 1), 2, 1);
+        fraction("one lesson, and one", once.mean(9, 4, 0), once.mean(9, 4, 1), 1, 5);
         SeasonBound five = Check.told("quick 0 9;quick 0 9;quick 0 9;quick 0 9;quick 0 9;spring 9 9 99;");
         fraction("five at the top", five.mean(0, 8, 0), five.mean(0, 8, 1), 495, 1);
         for (int c = 0; c < 5; c++) {

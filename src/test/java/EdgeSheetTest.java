@@ -10,6 +10,7 @@ public final class EdgeSheetTest {
         EdgeSheetTest test = new EdgeSheetTest();
         test.whetherThereWasOne();
         test.allIsAsTheImage();
+        test.anImageIsNotUpset();
         test.moreOrFewerThanTheImage();
         test.imageOfTheLastWeek();
         test.whatAnImageDoesNotHold();
@@ -82,12 +83,24 @@ public final class EdgeSheetTest {
             x.keep(k);
             upset(x);
             check.due("week", x.back(k), 2);
-            upset(x);
-            check.due("the image was not upset", x.back(k), 2);
             String one = Snapshot.of(kept);
             String other = Snapshot.of(x);
             check.holds("all is as image " + k + ": " + Snapshot.difference(one, other), one.equals(other));
         }
+    }
+
+    private void anImageIsNotUpset() {
+        SeasonBound kept = Scene.ORDINARY.build();
+        SeasonBound x = Scene.ORDINARY.build();
+        kept.back(1);
+        for (int i = 0; i < 3; i++) {
+            check.due("week", x.back(1), 4);
+            upset(x);
+        }
+        x.back(1);
+        String one = Snapshot.of(kept);
+        String other = Snapshot.of(x);
+        check.holds("what comes behind back() leaves it: " + Snapshot.difference(one, other), one.equals(other));
     }
 
     /** "CHILDREN (all of them)". */

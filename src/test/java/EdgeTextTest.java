@@ -405,6 +405,10 @@ public final class EdgeTextTest {
             for (String text : texts) {
                 SeasonBound x = scene.build();
                 x.end(0);
+                // A text that was refused, and what was asked, leave nothing to this one either.
+                Check.feed(x, "autumn 9 9 9;spring 9 9 9;slow 3 9;#");
+                x.text();
+                x.runs(37, 0);
                 Check.feed(x, text);
                 x.text();
                 check.due("nothing is seen", x.count(0), 0);

@@ -3,7 +3,8 @@ import java.util.Random;
 /** Random runs of calls, by fixed seeds, on the class and on the plain model: all answers are alike. */
 public final class ModelTest {
     private static final int RUNS = 1500;
-    private static final int CALLS = 500;
+    /** An object is used for at most 512 calls; what is looked at in one step goes beyond this by some thirty. */
+    private static final int CALLS = 480, MOST_CALLS = 512;
     private static final String[] NAMES = {"spring", "summer", "autumn", "winter", "plain", "quick", "slow", "orphan"};
 
     private final Check check;
@@ -29,16 +30,16 @@ public final class ModelTest {
         if (seed % 8 != 0) {
             tell(goodText());
         }
-        while (calls < CALLS) {
-            String trail = "seed " + seed + ", call " + calls + ": ";
-            step(trail);
-            if (check.wrong() != 0) {
-                return;
-            }
+        // A step may make no call, where a text is too long for what is left of them.
+        for (int i = 0; i < CALLS && calls < CALLS && check.wrong() == 0; i++) {
+            step("seed " + seed + ", call " + calls + ": ");
         }
     }
 
     private void tell(String text) {
+        if (calls + text.length() + 2 > MOST_CALLS) {
+            return;
+        }
         for (char c : text.toCharArray()) {
             same("feed " + c, x.feed(c), m.feed(c));
         }

@@ -32,11 +32,11 @@ public final class SeasonBound {
     private static final int NULL_FAULT = 1, INDEX_FAULT = 2, CAST_FAULT = 3, SIZE_FAULT = 4;
     private static final int REFUSED = -20;
 
-    private final Tape tape = new Tape();
+    private final Reader reader = new Reader();
+    private final Tape tape = reader.tape;
     private final World world = new World();
     /** Where what is only asked is tried out, so that the world itself stays. */
     private final World trial = new World();
-    private final Reader reader = new Reader(tape, trial);
     private final World[] images = new World[IMAGES];
     private final boolean[] kept = new boolean[IMAGES];
     private final Sheet[] sheets = new Sheet[SHEETS];
@@ -77,7 +77,7 @@ public final class SeasonBound {
     }
 
     public int text() {
-        int lines = reader.readAll();
+        int lines = reader.readAll(trial);
         latestFault = reader.fault;
         tape.size = 0;
         if (reader.fault != 0) {
@@ -1140,22 +1140,16 @@ public final class SeasonBound {
         }
     }
 
-    /** Reads a tape into a world, up to the first fault. */
+    /** Reads its tape into a world, up to the first fault. */
     private static final class Reader {
         private static final int LINES = SEASONS + KINDS;
 
-        private final Tape tape;
-        private final World into;
+        final Tape tape = new Tape();
         private int toldSeasons;
         int fault;
         int place;
 
-        Reader(Tape from, World target) {
-            tape = from;
-            into = target;
-        }
-
-        int readAll() {
+        int readAll(World into) {
             into.renew();
             tape.rewind();
             toldSeasons = 0;
@@ -1163,7 +1157,7 @@ public final class SeasonBound {
             int lines = 0;
             tape.readToken();
             // No line is shorter than a byte.
-            while (lines < TAPE_BYTES && tape.token != Tape.END && readLine()) {
+            while (lines < TAPE_BYTES && tape.token != Tape.END && readLine(into)) {
                 lines++;
                 tape.readToken();
             }
@@ -1171,10 +1165,11 @@ public final class SeasonBound {
             return lines;
         }
 
-        private boolean readLine() {
+        private boolean readLine(World into) {
             for (int line = 0; line < LINES; line++) {
                 if (tape.isNamed(nameOf(line))) {
-                    return (line < SEASONS ? readSeason(line) : readChild(line - SEASONS)) && readStop();
+                    return (line < SEASONS ? readSeason(into.seasons[line], line) : readChild(into, line - SEASONS))
+                        && readStop();
                 }
             }
             return failAtToken();
@@ -1193,12 +1188,11 @@ public final class SeasonBound {
             }
         }
 
-        private boolean readSeason(int s) {
+        private boolean readSeason(Season season, int s) {
             if ((toldSeasons & 1 << s) != 0) {
                 return fail(SECOND_TIME);
             }
             toldSeasons |= 1 << s;
-            Season season = into.seasons[s];
             if (!readNumber(1, LONGEST)) {
                 return false;
             }
@@ -1214,7 +1208,7 @@ public final class SeasonBound {
             return true;
         }
 
-        private boolean readChild(int kind) {
+        private boolean readChild(World into, int kind) {
             if (into.size >= MOST_CHILDREN) {
                 return fail(SIXTH_CHILD);
             }
